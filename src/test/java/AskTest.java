@@ -202,6 +202,23 @@ public final class AskTest {
             Check.due("receive " + i, x.output(1, i, 1), got[i]);
         }
         nothingSent();
+        wholeRegion();
+    }
+
+    private static void wholeRegion() {
+        String from = new Script().ask(7, 0, 0, 0).ask(7, -2, 0, 4).image();
+        String to = "addi r2, r0, 0\nask 8\njump r0, 0";
+        PartHouse x = Check.booted(new int[] {2, 0, 16, 0, 16, 16, 0, 1, 0, 1, 16, 2, 0, 50, 1, 2}, from, to);
+        x.run(50);
+        Check.due("a REGION that is sent whole", x.output(0, 0, 1), 0);
+        Check.due("not from the next word on", x.output(0, 1, 1), -2);
+        Check.due("word 15", x.channel(0, 20), x.memory(0, 15));
+        Check.due("word 0", x.channel(0, 5), 12 << 26 | 1 << 22);
+        x.run(2);
+        for (int i = 0; i < 16; i++) {
+            Check.due("received " + i, x.memory(1, i), x.memory(0, i));
+        }
+        Check.due("received", x.register(1, 1), 1);
     }
 
     private static void nothingSent() {

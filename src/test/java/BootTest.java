@@ -6,6 +6,7 @@ public final class BootTest {
         refusals();
         configs();
         latestBoot();
+        anew();
         fortyBoots();
         slots();
         yields();
@@ -122,6 +123,33 @@ public final class BootTest {
         Check.due("the new image", x.memory(0, 0), 39 << 26);
         Check.due("no partition 1", x.state(1, 0), -1);
         Check.due("no channel", x.channel(0, 0), -1);
+    }
+
+    /** Whatever a partition was left in, a boot begins anew. */
+    private static void anew() {
+        String text = "addi r1, r0, 16\nask 1\nstw r1, r0, 60\nword 0\nask 5\naddi r5, r0, 9\nask 21\nask 11\nback\nword 0";
+        PartHouse x = Check.booted(new int[] {2, 0, 16, 1, 16, 17, 1, 1, 0, 1, 1, 2, 0, 6, 1, 15}, text, text + "\nask 0");
+        x.input(0, 5);
+        x.input(0, 6);
+        x.make(0, 1, 0, 0);
+        x.inputTerm(0, 1);
+        x.run(60);
+        for (int what : new int[] {0, 2, 3, 4, 5, 6, 7, 9}) {
+            Check.due("state " + what + " is not 0", x.state(0, what) > 0 ? 1 : 0, 1);
+        }
+        x.off();
+        x.boot();
+        for (int what = 0; what <= 10; what++) {
+            Check.due("state " + what, x.state(0, what) + x.state(1, what), 0);
+        }
+        for (int i = 0; i < 16; i++) {
+            Check.due("register", x.register(0, i) + x.register(1, i), 0);
+        }
+        Check.due("memory", x.memory(0, 15) + x.memory(1, 15), 0);
+        Check.due("ticks", x.told(2), 0);
+        x.run(4);
+        Check.due("slots begin anew", x.state(0, 0) * 10 + x.state(0, 4), 161);
+        Check.due("the other waits", x.state(1, 0), 0);
     }
 
     private static void fortyBoots() {

@@ -194,13 +194,18 @@ public final class DiskTest {
         Check.due("writes", x.told(5), 5);
         Check.due("versions go on", x.block(3, 0) * 10 + x.block(2, 0), 34);
         Check.due("seals", x.state(0, 10), 2);
+        Check.due("cut(3)", x.cut(3), 3);
+        x.off();
+        x.boot();
+        Check.due("a boot forgets a cut that was not used", x.run(17), 17);
+        Check.due("writes", x.told(5), 8);
         Check.due("cut(1)", x.cut(1), 1);
         Check.due("cut(0)", x.cut(0), 0);
         Check.due("run", x.run(20), 20);
-        Check.due("writes", x.told(5), 9);
+        Check.due("writes", x.told(5), 12);
         Check.due("cut(1)", x.cut(1), 1);
         Check.due("run", x.run(20), 2);
-        Check.due("writes", x.told(5), 10);
+        Check.due("writes", x.told(5), 13);
         Check.due("off", x.told(0), 0);
         Check.due("cut", x.cut(1), -3);
     }

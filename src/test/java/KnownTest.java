@@ -9,6 +9,7 @@ public final class KnownTest {
     public static void main(String[] args) {
         refusals();
         rounds();
+        later();
         seals();
         boots();
         againstTheWords();
@@ -69,6 +70,29 @@ public final class KnownTest {
         for (int h = 1; h <= both.length; h++) {
             Check.due("far " + h, x.far(0, h), both[h - 1]);
         }
+    }
+
+    /** What is judged once is judged anew when there is more. */
+    private static void later() {
+        Script s = new Script().silent(21).silent(0).silent(15, 1).silent(13, 4).silent(15, 3).silent(11, 1).silent(15, 4);
+        PartHouse x = Check.booted(new int[] {1, 0, 64, 0, 0, 1, 0, 2}, s.image());
+        x.run(2);
+        Check.due("a SECRET", x.knows(0, 1), 0);
+        x.run(2);
+        Check.due("its HASH", x.knows(0, 2), 0);
+        x.run(4);
+        Check.due("HASH of a NUMBER", x.far(0, 4), 1);
+        Check.due("its HASH", x.far(0, 2), -3);
+        x.run(2);
+        Check.due("it went out", x.far(0, 1), 0);
+        Check.due("its HASH", x.far(0, 2), 1);
+        x.run(2);
+        Check.due("another HASH", x.far(0, 5), 2);
+        // What could not go out is not known by it.
+        x = Check.booted(Check.alone(0), "ask 21\nx: ask 6\naddi r5, r5, 1\naddi r6, r0, 200\nbne r5, r6, x\naddi r1, r0, 1\nask 11\nback");
+        x.run(810);
+        Check.due("no room", x.register(0, 1), -4);
+        Check.due("not known", x.knows(0, 1), 0);
     }
 
     private static void seals() {

@@ -148,7 +148,16 @@ public final class OutsideTest {
         x.boot();
         Check.due("another config", x.measure(0), 7);
         x.off();
-        Check.due("of the latest boot", x.measure(1), 8);
+        Check.keepRow(x, 8, 0, 31);
+        x.boot();
+        x.off();
+        Check.due("another loader", x.measure(0), 8);
+        Check.keepRow(x, 8, 1, 0);
+        Check.due("of the latest boot", x.measure(0), 8);
+        x.boot();
+        Check.due("a loader that differs in order alone", x.measure(0), 9);
+        x.off();
+        Check.due("of the latest boot", x.measure(1), 10);
         Check.due("none such", x.measure(2), -1);
     }
 

@@ -5,6 +5,7 @@ public final class PurgeTest {
     public static void main(String[] args) {
         refusals();
         inputsAndSecrets();
+        manyInputs();
         disks();
         keptLater();
         notTold();
@@ -45,6 +46,25 @@ public final class PurgeTest {
         Check.due("it is ON yet", x.told(0), 1);
         Check.due("and runs", x.run(10), 10);
         Check.due("purge", x.purge(1) + x.purge(2), 2);
+    }
+
+    private static void manyInputs() {
+        PartHouse x = Check.booted(Check.alone(0), "ask 5\nask 6\njump r0, -2");
+        for (int i = 1; i <= 501; i++) {
+            x.input(0, i);
+            Check.due("input", x.state(0, 8), (i - 1) % 50 + 1);
+            if (i % 50 == 0) {
+                x.run(150);
+            }
+            if (i == 500) {
+                Check.due("500 inputs", x.purge(0), 1);
+            }
+        }
+        Check.due("501 inputs", x.purge(0), -4);
+        Check.due("none such first", x.purge(1), -1);
+        x.off();
+        x.boot();
+        Check.due("another boot", x.purge(0), 1);
     }
 
     private static void disks() {
