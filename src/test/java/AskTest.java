@@ -5,6 +5,8 @@ public final class AskTest {
         looking();
         numbers();
         fullTable();
+        manySecrets();
+        farApart();
         inputs();
         inputTerms();
         outputs();
@@ -74,6 +76,35 @@ public final class AskTest {
         s.check(x, 0);
         Check.due("handles", x.state(0, 6), 100);
         Check.due("it waits yet", x.state(0, 9), 1);
+    }
+
+    private static void manySecrets() {
+        PartHouse x = Check.booted(Check.alone(0), "ask 21\njump r0, -1");
+        x.run(199);
+        Check.due("100 SECRETS", x.state(0, 6), 100);
+        Check.due("the last", x.register(0, 1), 100);
+        x.run(2);
+        Check.due("no more", x.register(0, 1), -4);
+        Check.due("others all", x.same(0, 1, 0, 2) + x.same(0, 99, 0, 100) + x.same(0, 1, 0, 100), 0);
+        Check.due("purge", x.purge(0), 1);
+    }
+
+    /** TERMS that came up far apart find their HANDLES all the same. */
+    private static void farApart() {
+        PartHouse x = Check.booted(Check.alone(0), "ask 12\nask 6\njump r0, -2");
+        for (int i = 1; i <= 600; i++) {
+            x.make(0, 1000 + i, 0, 0);
+        }
+        int[] handles = {1, 257, 513, 2, 258, 514, 257, 513, 1, 514, 2, 258, 3, 259, 256, 512, 259, 3, 512, 256};
+        int[] wants = {1, 2, 3, 4, 5, 6, 2, 3, 1, 6, 4, 5, 7, 8, 9, 10, 8, 7, 10, 9};
+        for (int h : handles) {
+            x.inputTerm(0, h);
+        }
+        x.run(60);
+        for (int i = 0; i < wants.length; i++) {
+            Check.due("handle " + i, x.output(0, i, 1), wants[i]);
+            Check.due("the same " + i, x.same(0, wants[i], -1, handles[i]), 1);
+        }
     }
 
     private static void inputs() {
@@ -203,6 +234,7 @@ public final class AskTest {
         }
         nothingSent();
         wholeRegion();
+        noChannel();
     }
 
     private static void wholeRegion() {
@@ -219,6 +251,26 @@ public final class AskTest {
             Check.due("received " + i, x.memory(1, i), x.memory(0, i));
         }
         Check.due("received", x.register(1, 1), 1);
+    }
+
+    private static void noChannel() {
+        String none = new Script().ask(7, -1, 0, 0).ask(8, -1, 0, 0).ask(9, -1, 0, 1).ask(10, -1, 0).ask(8, -1, 16, 0).ask(8, -1, -1, 0)
+            .ask(7, -1, 16, 0).ask(10, -1, 1000).image();
+        PartHouse x = Check.booted(new int[] {1, 0, 64, 0, 0, 1, 0, 1000}, none);
+        x.run(50);
+        for (int i = 0; i < 8; i++) {
+            Check.due("no channel, ask " + i, x.output(0, i, 1), -1);
+        }
+        // A boot begins with nothing sent.
+        String send = "ask 7\nask 13\nadd r2, r1, r0\nadd r1, r0, r0\nask 9\nask 0";
+        x = Check.booted(new int[] {2, 0, 16, 0, 16, 16, 0, 1, 0, 1, 2, 1, 0, 50}, send, "back");
+        x.run(5);
+        Check.due("sent", x.channel(0, 3) * 10 + x.channel(0, 4), 11);
+        Check.due("a word", x.channel(0, 5), x.memory(0, 0));
+        x.off();
+        Check.due("OFF", x.channel(0, 3) * 10 + x.channel(0, 4), 11);
+        x.boot();
+        Check.due("a boot empties", x.channel(0, 3) + x.channel(0, 4) + x.channel(0, 5) + x.channel(0, 6), 0);
     }
 
     private static void nothingSent() {

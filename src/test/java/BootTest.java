@@ -7,6 +7,7 @@ public final class BootTest {
         configs();
         latestBoot();
         anew();
+        most();
         fortyBoots();
         slots();
         yields();
@@ -150,6 +151,46 @@ public final class BootTest {
         x.run(4);
         Check.due("slots begin anew", x.state(0, 0) * 10 + x.state(0, 4), 161);
         Check.due("the other waits", x.state(1, 0), 0);
+    }
+
+    /** As much of everything as a CONFIG may have. */
+    private static void most() {
+        int[] row = new int[1 + 24 + 1 + 48 + 1 + 64];
+        int at = 0;
+        row[at++] = 8;
+        for (int p = 0; p < 8; p++) {
+            row[at++] = 1024 * p;
+            row[at++] = 1024;
+            row[at++] = 4;
+        }
+        row[at++] = 16;
+        for (int c = 0; c < 16; c++) {
+            row[at++] = c / 2;
+            row[at++] = (c / 2 + 1) % 8;
+            row[at++] = 16;
+        }
+        row[at++] = 32;
+        for (int s = 0; s < 32; s++) {
+            row[at++] = s % 8;
+            row[at++] = 10;
+        }
+        String image = new Script().silent(21).silent(32, 3, 1).ask(34, 1, 3).silent(7, 15, 0).silent(8, 15, 0).image();
+        PartHouse x = Check.house(row);
+        for (int p = 0; p < 8; p++) {
+            Check.keepText(x, p, image);
+        }
+        Check.due("boot", x.boot(), 8);
+        Check.due("run", x.run(2000), 2000);
+        for (int p = 0; p < 8; p++) {
+            Check.due("output", x.output(p, 0, 1), 1);
+            Check.due("block", x.block(8 * p + 7, 0), 1);
+            Check.due("purge", x.purge(p), 1);
+            Check.due("flows", x.flows(p, (p + 3) % 8), 1);
+        }
+        Check.due("channel 15", x.channel(15, 0) * 10 + x.channel(15, 1), 70);
+        Check.due("channel 16", x.channel(16, 0), -1);
+        Check.due("partition 8", x.state(8, 0), -1);
+        Check.due("channels", x.told(4), 16);
     }
 
     private static void fortyBoots() {

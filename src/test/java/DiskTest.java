@@ -6,6 +6,7 @@ public final class DiskTest {
         rollback();
         otherImages();
         otherBlobs();
+        likeVersions();
         puts();
         cuts();
         fortySeals();
@@ -138,6 +139,33 @@ public final class DiskTest {
         y.run(400);
         Check.due("is not right", y.output(0, 0, 1), 0);
         Check.due("is not right", y.output(0, 1, 1), -3);
+    }
+
+    /** Of two right copies of like versions the first one counts. */
+    private static void likeVersions() {
+        String text = "ask 5\nbeq r2, r0, look\nask 13\nadd r2, r1, r0\nadd r1, r0, r0\nask 32\nback\n"
+            + "look: add r1, r0, r0\nask 33\nask 23\nback";
+        PartHouse x = Check.booted(Check.alone(1), text);
+        x.input(0, 70);
+        x.run(10);
+        Check.due("the first", x.block(1, 1), 1);
+        x.off();
+        x.put(1, 0, 0);
+        x.boot();
+        x.input(0, 80);
+        x.run(10);
+        Check.due("the second", x.block(1, 1), 2);
+        Check.due("is version 1 too", x.block(1, 0), 1);
+        x.off();
+        int[][] copies = {{1, 2, 70}, {2, 1, 80}, {0, 1, 70}, {0, 2, 80}, {2, 0, 80}};
+        for (int[] c : copies) {
+            x.put(0, 1, c[0]);
+            x.put(1, 1, c[1]);
+            x.boot();
+            x.run(10);
+            Check.due("copies " + c[0] + ", " + c[1], x.register(0, 1), c[2]);
+            x.off();
+        }
     }
 
     private static void puts() {

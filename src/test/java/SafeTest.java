@@ -25,6 +25,12 @@ public final class SafeTest {
         Check.due("2049 words", x.safe(3, 2049), -2);
         Check.keepText(x, 7, "x: jump r0, x");
         Check.due("the last one's", x.safe(7, 16), 1);
+        Check.due("again", x.safe(3, 17), -100);
+        Check.due("again", x.safe(7, 16), 1);
+        Check.keepText(x, 6, "jump r0, x\nroom 3\nx: stw r0, r0, 0\njump r0, x");
+        Check.due("it stores into what is reached", x.safe(6, 16), -104);
+        Check.keepText(x, 6, "x: stw r0, r0, 16\njump r0, x");
+        Check.due("what another image reached does not count", x.safe(6, 16), 1);
         Check.keepRow(x, 8, 1);
         Check.due("the loader is no image", x.safe(8, 16), -1);
     }
@@ -66,6 +72,7 @@ public final class SafeTest {
         safe("x: sto r1, r0, 7\njump r0, x", 16, -100);
         safe("x: stw r1, r0, 8\njump r0, x", 16, 1);
         safe("x: stw r1, r0, 8\njump r0, x\nback", 16, 1);
+        safe("x: jump r0, y\nroom 3\ny: stw r1, r0, 8\njump r0, x", 16, 1);
         safe("jump r0, x\nback\nx: back\ny: jump r0, y", 16, -102);
         // The word behind a BAD one is REACHED too, unless that one is a jump.
         safe("jump r0, x\ny: back\nz: jump r0, z\nx: word 0\njump r0, y", 16, -101);

@@ -8,6 +8,7 @@ public final class TextTest {
         labels();
         faults();
         bounds();
+        again();
         limits();
         Check.end("TextTest");
     }
@@ -193,6 +194,21 @@ public final class TextTest {
         Check.fault("room 2049", 5, 5);
         Check.fault("room -1", 5, 6);
         Check.makes("word 4294967295\nword -2147483648\nword 2147483648", -1, 1 << 31, 1 << 31);
+    }
+
+    /** Nothing of a text before is left in a later one. */
+    private static void again() {
+        PartHouse x = new PartHouse();
+        Check.due("words", Check.assemble(x, "a: word 1\nword 2\nword 0x5"), 3);
+        Check.due("0x at the end", Check.assemble(x, "word 0x"), -12);
+        Check.due("its place", x.place(), 6);
+        Check.due("the row stays", x.word(1), 2);
+        Check.due("a room", Check.assemble(x, "room 3"), 3);
+        Check.due("is of words 0", x.word(0) + x.word(1) + x.word(2), 0);
+        Check.due("no place", x.place(), -1);
+        Check.due("a label of before", Check.assemble(x, "word a"), -17);
+        Check.due("told again", Check.assemble(x, "word 7\na: word a"), 2);
+        Check.due("its address", x.word(1), 4);
     }
 
     private static void limits() {
