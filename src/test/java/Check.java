@@ -1,3 +1,5 @@
+import java.util.function.IntSupplier;
+
 /** What the tests share: they count wrong answers, type texts, feed rows and boot. */
 final class Check {
     static final int LOADER = 8;
@@ -5,8 +7,14 @@ final class Check {
 
     private static int wrong;
     private static int asked;
+    private static String sentence = "";
 
     private Check() {
+    }
+
+    /** The words of the document that are tested from here on; a wrong answer is told with them. */
+    static void about(String words) {
+        sentence = "\"" + words + "\": ";
     }
 
     /** Tells an answer that is not the one that is due. */
@@ -15,9 +23,17 @@ final class Check {
         if (got != want) {
             wrong++;
             if (wrong <= 40) {
-                System.out.println(call + " answered " + got + ", due is " + want);
+                System.out.println(sentence + call + " answered " + got + ", due is " + want);
             }
         }
+    }
+
+    /** A call that is refused: all that the face shows stays as it was. */
+    static void refused(PartHouse x, String call, IntSupplier asks, int want) {
+        String before = Snapshot.of(x);
+        due(call, asks.getAsInt(), want);
+        String after = Snapshot.of(x);
+        due(call + " changes nothing" + Snapshot.difference(before, after), before.equals(after) ? 0 : 1, 0);
     }
 
     static void due(String call, String got, String want) {
@@ -98,7 +114,7 @@ final class Check {
     static void keepText(PartHouse x, int p, String text) {
         int count = assemble(x, text);
         if (count <= 0) {
-            due("assemble of an image (" + text + ", place " + x.place() + ")", count, 1);
+            due("assemble of an image (" + text.substring(0, Math.min(60, text.length())) + ", place " + x.place() + ")", count, 1);
         }
         due("keep of an image", x.keep(p), count);
     }
