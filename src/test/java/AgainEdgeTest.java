@@ -10,7 +10,9 @@ public final class AgainEdgeTest {
         ticksThatAreOver();
         inputsBeforeTheSameTicks();
         partitionsThatDoNotFlow();
+        eightPartitions();
         blocksAtItsBeginning();
+        measuresAgain();
         secrets();
         powerDoesNotGo();
         changesNothing();
@@ -91,6 +93,20 @@ public final class AgainEdgeTest {
         Check.keepRow(x, Check.CONFIG, Check.alone(0));
         x.boot();
         Check.due("one alone", x.flows(0, 1), -1);
+        // CHANNELS of a boot before the one before are no CHANNELS of this one.
+        int[] apart = {3, 0, 16, 0, 16, 16, 0, 32, 16, 0, 0, 1, 0, 1};
+        int[] joined = {3, 0, 16, 0, 16, 16, 0, 32, 16, 0, 2, 2, 1, 1, 1, 2, 1, 1, 0, 1};
+        PartHouse y = Check.booted(joined, SPIN, SPIN, SPIN);
+        for (int boot = 0; boot < 4; boot++) {
+            y.off();
+            Check.keepRow(y, Check.CONFIG, apart);
+            y.boot();
+            for (int q = 0; q < 3; q++) {
+                for (int p = 0; p < 3; p++) {
+                    Check.due("apart " + q + ", " + p, y.flows(q, p), q == p ? 1 : 0);
+                }
+            }
+        }
     }
 
     private static void ticksThatAreOver() {
@@ -156,6 +172,43 @@ public final class AgainEdgeTest {
         Check.due("none such", x.purge(Integer.MIN_VALUE), -1);
     }
 
+    private static void eightPartitions() {
+        Check.about("PURGING for p: 1 if p has the same outputs behind it (as many, alike in kind, words, TERMS), its PC and registers are the same, else 0");
+        String text = "x: ask 4\nask 6\nask 21\nask 11\naddi r5, r5, 1\njump r0, x";
+        int[] config = new int[1 + 24 + 1 + 48 + 1 + 16];
+        int at = 0;
+        config[at++] = 8;
+        for (int p = 0; p < 8; p++) {
+            config[at++] = 16 * p;
+            config[at++] = 16;
+            config[at++] = 4;
+        }
+        config[at++] = 16;
+        for (int c = 0; c < 16; c++) {
+            config[at++] = c % 4;
+            config[at++] = 4 + c / 4;
+            config[at++] = 16;
+        }
+        config[at++] = 8;
+        for (int p = 0; p < 8; p++) {
+            config[at++] = p;
+            config[at++] = 5 + p;
+        }
+        PartHouse x = Check.booted(config, text, text, text, text, text, text, text, text);
+        for (int i = 0; i < 5; i++) {
+            for (int p = 0; p < 8; p++) {
+                x.input(p, i);
+                Check.due("purge of " + p, x.purge(p), 1);
+            }
+            x.run(150);
+        }
+        for (int q = 0; q < 8; q++) {
+            for (int p = 0; p < 8; p++) {
+                Check.due("flows " + q + ", " + p, x.flows(q, p), q == p || q < 4 && p >= 4 ? 1 : 0);
+            }
+        }
+    }
+
     private static void blocksAtItsBeginning() {
         Check.about("the other BLOCKS are as they were when it began");
         String text = "addi r1, r0, 0\nask 34\nask 6\naddi r1, r0, 0\nask 33\nask 23\nask 6\nask 4\nask 13\nadd r2, r1, r0\naddi r1, r0, 0\nask 32\nask 6\njump r0, 0";
@@ -176,6 +229,20 @@ public final class AgainEdgeTest {
         }
         Check.due("BLOCKS that changed behind it", x.purge(0) + x.purge(1), 2);
         Check.due("they stay empty", x.block(0, 0) + x.block(1, 0) + x.block(2, 0) + x.block(3, 0), 0);
+    }
+
+    /** What a partition asks of its measure and its BLOBS is as it was. */
+    private static void measuresAgain() {
+        Check.about("PURGING for p: the latest boot from its beginning");
+        String text = "ask 29\nask 11\nask 30\nask 11\nask 31\nask 11\naddi r1, r0, 0\naddi r2, r0, 1\nask 32\naddi r1, r0, 0\nask 33\nask 6\njump r0, -9";
+        PartHouse x = Check.booted(new int[] {2, 0, 16, 1, 16, 16, 1, 0, 2, 0, 20, 1, 20}, text, text);
+        for (int boot = 0; boot < 3; boot++) {
+            x.run(100);
+            Check.due("purge", x.purge(0) + x.purge(1), 2);
+            Check.due("a TERM went out", x.output(0, 0, 0) + x.output(1, 0, 0), 2);
+            x.off();
+            x.boot();
+        }
     }
 
     private static void secrets() {

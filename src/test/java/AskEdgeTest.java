@@ -5,7 +5,9 @@ public final class AskEdgeTest {
 
     public static void main(String[] args) {
         goesOn();
+        yieldAnswers();
         refusals();
+        handlesOfItsTable();
         refusalsWhenFull();
         handlerPlaces();
         causes();
@@ -29,6 +31,7 @@ public final class AskEdgeTest {
         closed();
         quotes();
         seals();
+        unseals();
         fortySeals();
         Check.end("AskEdgeTest");
     }
@@ -72,6 +75,33 @@ public final class AskEdgeTest {
             boolean second = number == 5 || number == 23;
             Check.due("r2 behind ask " + number, x.register(0, 2), second ? 1 : 2);
         }
+    }
+
+    private static void yieldAnswers() {
+        Check.about("0 YIELD: 0");
+        PartHouse x = Check.booted(new int[] {1, 0, 16, 0, 0, 1, 0, 4}, "addi r1, r0, 9\nask 0\naddi r5, r0, 1\njump r0, 0");
+        x.run(2);
+        Check.due("R1 and PC", x.register(0, 1) * 10 + x.state(0, 0), 8);
+        x.run(2);
+        Check.due("nothing more in this turn", x.register(0, 5) * 10 + x.state(0, 0), 8);
+        x.run(1);
+        Check.due("in the next turn", x.register(0, 5), 1);
+    }
+
+    /** A HANDLE is good in the TABLE that it is of, and as long as its boot lasts. */
+    private static void handlesOfItsTable() {
+        Check.about("h, k, n are HANDLES of its TABLE (- 2: none such)");
+        Script first = new Script().ask(13, 1, 5).ask(13, 2, 6).ask(22, 0, 2).ask(22, -2, 3);
+        Script second = new Script().ask(22, -2, 1).ask(15, -2, 2).ask(11, -2, 1).ask(13, 1, 6).ask(22, 0, 1).ask(22, -2, 2).ask(14, -2, 1, 2);
+        PartHouse x = Check.booted(new int[] {2, 0, 64, 0, 64, 64, 0, 0, 2, 0, 50, 1, 50}, first.image(), second.image());
+        x.run(100);
+        first.check(x, 0);
+        second.check(x, 1);
+        x.off();
+        x.boot();
+        x.run(100);
+        first.check(x, 0);
+        second.check(x, 1);
     }
 
     /** Asks that are refused: R1 and PC alone change, and the tick is over. */
@@ -461,6 +491,19 @@ public final class AskEdgeTest {
             int h = x.make(kinds[i], 1, 2, 3);
             Check.due("the outside's of kind " + kinds[i], x.same(0, 4 + i, -1, h), 1);
         }
+        // Nor do they where they are HANDLES.
+        Script t = new Script().ask(13, 1, 1).ask(13, 2, 2).ask(13, 3, 3);
+        for (int i = 0; i < kinds.length; i++) {
+            boolean one = kinds[i] == 4 || kinds[i] == 6;
+            t.ask(14 + i, 4 + i, 1, 2, 3).ask(14 + i, 4 + i, 1, one ? 3 : 2, kinds[i] == 8 ? 3 : 1);
+        }
+        x = t.runs();
+        for (int i = 1; i <= 3; i++) {
+            x.make(0, i, 0, 0);
+        }
+        for (int i = 0; i < kinds.length; i++) {
+            Check.due("the outside's of kind " + kinds[i], x.same(0, 4 + i, -1, x.make(kinds[i], 1, 2, 3)), 1);
+        }
     }
 
     private static void secrets() {
@@ -564,6 +607,18 @@ public final class AskEdgeTest {
             Check.due("seals", x.state(0, 10), area);
             Check.due("writes", x.told(5), area);
         }
+    }
+
+    private static void unseals() {
+        Check.about("33 UNSEAL BLOB R1: its TERM; - 3 no copy is RIGHT. 34 the VERSION that COUNTS of BLOB R1; 0 without one");
+        // 1 a SECRET, 2 a NUMBER; BLOB 1 of an AREA of 2.
+        Script s = new Script().ask(33, -3, 1).ask(34, 0, 1).ask(21, 1).ask(13, 2, 5).ask(32, 1, 1, 1).ask(33, 1, 1).ask(34, 1, 1).ask(32, 2, 1, 2)
+            .ask(33, 2, 1).ask(34, 2, 1).ask(33, -3, 0).ask(34, 0, 0).ask(33, -1, 2).ask(34, -1, 2).ask(33, -1, -1).ask(34, -1, -1);
+        PartHouse x = Check.booted(new int[] {1, 0, 128, 2, 0, 1, 0, 1000}, s.image());
+        x.run(s.ticks());
+        s.check(x, 0);
+        Check.due("UNSEAL writes nothing", x.told(5), 2);
+        Check.due("BLOCKS", x.block(2, 0) * 10 + x.block(3, 0), 21);
     }
 
     private static void fortySeals() {

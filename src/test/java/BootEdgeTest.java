@@ -249,6 +249,9 @@ public final class BootEdgeTest {
         Check.due("SLOTS and WHO", boot(1, 0, 16, 0, 0, 0, 5, 0), -105);
         Check.due("WHO and STEPS", boot(1, 0, 16, 0, 0, 1, 5, 0), -106);
         Check.due("STEPS", boot(1, 0, 16, 0, 0, 1, 0, 0), -107);
+        Check.about("-100 less the place of THE CONFIG's FAULT");
+        Check.due("the first place", boot(9), -100);
+        Check.due("the second place", boot(1, -1), -101);
         Check.due("too short and wrong", boot(1, 0, 15), -102);
         Check.due("of the second", boot(2, 0, 16, 0, 15, 15, 9, 17), -105);
     }
@@ -336,25 +339,24 @@ public final class BootEdgeTest {
         int[][] changes = {{0, 6}, {0, 5, 0}, {1, 6}, {8, 2}, {8, 1, 0}, {9, 2, 0, 16, 0, 16, 16, 0, 0, 1, 0, 2}};
         int next = 3;
         for (int[] change : changes) {
-            PartHouse z = x;
-            z.off();
-            Check.keepRow(z, change[0], Arrays.copyOfRange(change, 1, change.length));
-            z.boot();
-            int first = z.measure(0);
-            int second = z.measure(1);
+            x.off();
+            Check.keepRow(x, change[0], Arrays.copyOfRange(change, 1, change.length));
+            x.boot();
+            int first = x.measure(0);
+            int second = x.measure(1);
             boolean firstNew = change[0] != 1;
             boolean secondNew = change[0] != 0;
             Check.due("R(0) behind a change of " + change[0], first, firstNew ? next : 1);
             next += firstNew ? 1 : 0;
             Check.due("R(1) behind a change of " + change[0], second, secondNew ? next : 2);
             next += secondNew ? 1 : 0;
-            z.off();
-            Check.keepRow(z, Check.LOADER, 1);
-            Check.keepRow(z, Check.CONFIG, 2, 0, 16, 0, 16, 16, 0, 0, 1, 0, 1);
-            Check.keepRow(z, 0, 5);
-            Check.keepRow(z, 1, 5);
-            z.boot();
-            Check.due("as it was", z.measure(0) * 10 + z.measure(1), 12);
+            x.off();
+            Check.keepRow(x, Check.LOADER, 1);
+            Check.keepRow(x, Check.CONFIG, 2, 0, 16, 0, 16, 16, 0, 0, 1, 0, 1);
+            Check.keepRow(x, 0, 5);
+            Check.keepRow(x, 1, 5);
+            x.boot();
+            Check.due("as it was", x.measure(0) * 10 + x.measure(1), 12);
         }
     }
 
@@ -434,6 +436,17 @@ public final class BootEdgeTest {
         Check.due("the next turn", x.state(0, 0), 0);
         x.run(1);
         Check.due("goes on", x.register(0, 5) * 10 + x.state(0, 0), 24);
+        // Nor is it lost in the next boot, nor does a slot's turn go on there.
+        x.off();
+        x.boot();
+        x.run(2);
+        Check.due("YIELD again", x.state(0, 0), 8);
+        x = Check.booted(new int[] {1, 0, 16, 0, 0, 1, 0, 9}, "addi r5, r5, 1\nask 0\njump r0, -2");
+        x.run(4);
+        x.off();
+        x.boot();
+        x.run(1);
+        Check.due("a boot begins a turn", x.register(0, 5), 1);
         // One that yields keeps no other one from its turn.
         x = Check.booted(new int[] {2, 0, 16, 0, 16, 16, 0, 0, 2, 0, 10, 1, 10}, "ask 0", "addi r1, r1, 1\njump r0, -1");
         x.run(20);
@@ -442,7 +455,7 @@ public final class BootEdgeTest {
     }
 
     private static void tickOver() {
-        Check.about("A tick is over then, in any case");
+        Check.about("does one instruction (or has one TRAP); else nothing is done. A tick is over then, in any case");
         PartHouse x = Check.booted(new int[] {2, 0, 16, 0, 16, 16, 0, 0, 3, 0, 2, 255, 2, 1, 2}, "word 0", "ask 0\nask 4\nback");
         Check.due("halted, nobody, yielded", x.run(6), 6);
         Check.due("ticks", x.told(2), 6);

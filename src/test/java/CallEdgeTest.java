@@ -144,7 +144,13 @@ public final class CallEdgeTest {
     private static void assembleAndPlace() {
         Check.about("ASSEMBLING: how many words THE ROW has; -10 less the FAULT. THE TEXT is empty then");
         PartHouse x = new PartHouse();
+        Check.due("2047 words", Check.assemble(x, "room 2047"), 2047);
+        Check.due("the text", x.told(8), 0);
+        Check.about("The place of the FAULT of the latest assemble(); -1 if it had none, or before");
+        x = new PartHouse();
         Check.due("before", x.place(), -1);
+        x.type('?', 1);
+        Check.due("typed alone", x.place(), -1);
         String[] faulty = {"?", "5", "foo", "a:\na:", "ask -1", "room 2048\nback", "word x"};
         int[] places = {0, 0, 0, 3, 5, 10, 5};
         for (int i = 0; i < faulty.length; i++) {
@@ -564,6 +570,20 @@ public final class CallEdgeTest {
             for (int what = 0; what <= 20; what++) {
                 Check.due("what " + what, x.channel(0, what), what < due.length ? due[what] : 0);
             }
+        }
+        Check.about("3 whether something was sent since the latest RECEIVE, 4 whether a TERM was ever sent");
+        Script from = new Script().silent(13, 4).silent(0).silent(7, 0, 0).silent(0).silent(9, 0, 1).silent(0).silent(7, 0, 0).silent(7, 0, 0);
+        Script to = new Script().silent(8, 0, 100).does("ask 0").silent(8, 0, 100).silent(0).silent(10, 0).silent(0).silent(8, 0, 100);
+        PartHouse both = Check.booted(new int[] {2, 0, 32, 0, 32, 32, 0, 1, 0, 1, 1, 2, 0, 10, 1, 10}, from.image(), to.image());
+        int[] sent = {0, 1, 0, 1};
+        int[] terms = {0, 0, 1, 1};
+        for (int turn = 0; turn < 4; turn++) {
+            both.run(10);
+            Check.due("sent, turn " + turn, both.channel(0, 3), sent[turn]);
+            Check.due("a TERM, turn " + turn, both.channel(0, 4), terms[turn]);
+            both.run(10);
+            Check.due("sent, behind the other's turn " + turn, both.channel(0, 3), 0);
+            Check.due("a TERM, behind the other's turn " + turn, both.channel(0, 4), terms[turn]);
         }
         Check.about("5 + i word i of what was sent last (0 where there is none)");
         PartHouse x = Check.booted(new int[] {2, 0, 16, 0, 16, 16, 0, 2, 0, 1, 16, 0, 1, 1, 1, 0, 50},

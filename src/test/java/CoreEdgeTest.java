@@ -6,11 +6,14 @@ public final class CoreEdgeTest {
 
     public static void main(String[] args) {
         addresses();
+        regionEnds();
         wrappingAddresses();
         octetOrder();
         registerZero();
+        eachRegister();
         spareBits();
         reckoning();
+        shifts();
         reckoningWithM();
         high();
         loads();
@@ -47,7 +50,7 @@ public final class CoreEdgeTest {
     }
 
     private static void addresses() {
-        Check.about("an ADDRESS a is octet a of it (0 .. 4 SIZE - 1)");
+        Check.about("3 the ADDRESS of a word, half is no multiple of 4, 2; 2 an octet of it is not in the REGION");
         for (int size : new int[] {16, 17, 2047, 2048}) {
             int end = 4 * size;
             for (String octet : new String[] {"ldo", "ldou", "sto"}) {
@@ -74,6 +77,22 @@ public final class CoreEdgeTest {
                 Check.due(word + " at -4", cause(size, word + " r0, r0, -4", 0), 2);
             }
         }
+    }
+
+    private static void regionEnds() {
+        Check.about("an ADDRESS a is octet a of it (0 .. 4 SIZE - 1)");
+        for (int size : new int[] {16, 2048}) {
+            int last = 4 * size - 1;
+            PartHouse x = ran(size, 4, "addi r1, r0, 200\nsto r1, r0, " + last + "\nldou r2, r0, " + last + "\nldo r3, r0, 0");
+            Check.due("the last octet", x.register(0, 2), 200);
+            Check.due("is the highest of the last word", x.memory(0, size - 1), 200 << 24);
+            Check.due("octet 0", x.register(0, 3), (byte) (12 << 26 | 1 << 22 | 200));
+        }
+        // Two REGIONS that lie side by side: neither reaches the other one.
+        PartHouse x = Check.booted(new int[] {2, 16, 16, 0, 0, 16, 0, 0, 2, 0, 9, 1, 9}, "ldw r1, r0, -4\nback", "ldw r1, r0, 64\nback");
+        x.run(18);
+        Check.due("the one before", x.state(0, 2) * 10 + x.state(0, 3), 20);
+        Check.due("the one behind", x.state(1, 2) * 10 + x.state(1, 3), 20);
     }
 
     private static void wrappingAddresses() {
@@ -113,6 +132,29 @@ public final class CoreEdgeTest {
         Check.due("r14", x.register(0, 14), 18);
     }
 
+    /** Each register as the one that is written, and as each one that is read; all others are 0. */
+    private static void eachRegister() {
+        Check.about("d, a, b are w >>> 22 & 15, w >>> 18 & 15, w >>> 14 & 15");
+        for (int r = 1; r <= 15; r++) {
+            int other = r == 15 ? 1 : r + 1;
+            String set = "addi r" + r + ", r0, 40\n";
+            PartHouse x = ran(16, 4, set + "add r" + other + ", r0, r" + r + "\nstw r" + other + ", r" + r + ", 4\nldw r" + other + ", r" + r + ", 4");
+            Check.due("stored by r" + r, x.memory(0, 11), 40);
+            Check.due("loaded by r" + r, x.register(0, other), 40);
+            for (int i = 0; i <= 15; i++) {
+                Check.due("r" + i, x.register(0, i), i == r || i == other ? 40 : 0);
+            }
+            Check.due("bne of r" + r + " as d", ran(16, 2, set + "bne r" + r + ", r0, 5").state(0, 0), 24);
+            Check.due("bne of r" + r + " as a", ran(16, 2, set + "bne r0, r" + r + ", 5").state(0, 0), 24);
+            Check.due("sub of r" + r + " as a", ran(16, 2, set + "sub r" + other + ", r" + r + ", r0").register(0, other), 40);
+            Check.due("sub of r" + r + " as b", ran(16, 2, set + "sub r" + other + ", r0, r" + r).register(0, other), -40);
+            Check.due("addi of r" + r, ran(16, 2, set + "addi r" + other + ", r" + r + ", 1").register(0, other), 41);
+            Check.due("jumpr of r" + r, ran(16, 2, set + "jumpr r" + other + ", r" + r + ", 8").state(0, 0), 48);
+            Check.due("jump to r" + r, ran(16, 1, "jump r" + r + ", 2").register(0, r), 4);
+            Check.due("high to r" + r, ran(16, 1, "high r" + r + ", 2").register(0, r), 32768);
+        }
+    }
+
     /** Bits of a word that its op has no use for do not count when it runs. */
     private static void spareBits() {
         Check.about("M is the lowest 18 bits with their sign");
@@ -143,6 +185,30 @@ public final class CoreEdgeTest {
             case "less": return x < y ? 1 : 0;
             case "below": return Integer.compareUnsigned(x, y) < 0 ? 1 : 0;
             default: return (int) ((long) x * y);
+        }
+    }
+
+    /** Shifts by 32 and more, and below 0, are shifts by the lowest 5 bits; each with 31, the last that shifts all but one out. */
+    private static void shifts() {
+        Check.about("shifts by the lowest 5 bits of Rb (shr: 0s come in; sar: the sign)");
+        int[][] by = {{0, 0}, {1, 1}, {31, 31}, {32, 0}, {33, 1}, {63, 31}, {64, 0}, {-1, 31}, {-32, 0}, {-31, 1}};
+        for (int[] b : by) {
+            PartHouse x = ran(16, 8, "ldw r1, r0, 60\naddi r2, r0, " + b[0] + "\nshl r3, r1, r2\nshr r4, r1, r2\nsar r5, r1, r2\nshli r6, r1, " + b[0]
+                + "\nshri r7, r1, " + b[0] + "\nsari r8, r1, " + b[0] + "\nroom 7\nword 0x80000001");
+            int[] want = {b[1] == 0 ? LEAST + 1 : b[1] == 1 ? 2 : LEAST, b[1] == 0 ? LEAST + 1 : b[1] == 1 ? 1 << 30 : 1,
+                b[1] == 0 ? LEAST + 1 : b[1] == 1 ? 0xC0000000 : -1};
+            for (int i = 0; i < 3; i++) {
+                Check.due("shift " + i + " by " + b[0], x.register(0, 3 + i), want[i]);
+                Check.due("shift with M " + i + " by " + b[0], x.register(0, 6 + i), want[i]);
+            }
+        }
+        Check.about("less: 1 if Ra < Rb as numbers with a sign, else 0; below: without a sign; mul: the lowest 32 bits");
+        int[][] cases = {{LEAST, MOST, 1, 0}, {MOST, LEAST, 0, 1}, {-1, 0, 1, 0}, {0, -1, 0, 1}, {5, 5, 0, 0}, {4, 5, 1, 1}, {5, 4, 0, 0}, {LEAST, LEAST, 0, 0}};
+        for (int[] c : cases) {
+            PartHouse x = ran(16, 5, "ldw r1, r0, 56\nldw r2, r0, 60\nless r3, r1, r2\nbelow r4, r1, r2\nmul r5, r1, r2\nroom 9\nword " + c[0] + "\nword " + c[1]);
+            Check.due("less " + c[0] + ", " + c[1], x.register(0, 3), c[2]);
+            Check.due("below " + c[0] + ", " + c[1], x.register(0, 4), c[3]);
+            Check.due("mul " + c[0] + ", " + c[1], x.register(0, 5), c[0] * c[1]);
         }
     }
 
@@ -256,8 +322,11 @@ public final class CoreEdgeTest {
         Check.due("as far back as can be", h.state(0, 0), -524288);
         h = ran(16, 1, "beq r0, r0, 131071");
         Check.due("as far on as can be", h.state(0, 0), 524284);
+        Check.about("Otherwise PC grows by 4");
         h = ran(16, 1, "bne r0, r0, -131072");
-        Check.due("otherwise PC grows by 4", h.state(0, 0), 4);
+        Check.due("a branch that does not go", h.state(0, 0), 4);
+        h = ran(16, 3, "add r1, r0, r0\nldw r1, r0, 0\nstw r1, r0, 40");
+        Check.due("others", h.state(0, 0), 12);
     }
 
     private static void jumps() {
@@ -413,7 +482,7 @@ public final class CoreEdgeTest {
     }
 
     private static void backs() {
-        Check.about("39 (back): PC becomes the place of the latest TRAP and 4");
+        Check.about("39 (back): PC becomes the place of the latest TRAP and 4, and the partition is in its HANDLER no more");
         PartHouse x = ran(16, 4, "addi r1, r0, 12\nask 1\nword 0\nback");
         Check.due("behind the TRAP", x.state(0, 0) * 10 + x.state(0, 4), 120);
         Check.due("CAUSE and WHERE stay", x.state(0, 2) * 10 + x.state(0, 3), 18);

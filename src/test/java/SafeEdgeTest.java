@@ -105,6 +105,9 @@ public final class SafeEdgeTest {
             int m = op >= 22 && op <= 29 ? 32 : op >= 30 && op <= 36 ? 1 : 0;
             safe(16, bad ? -100 : 1, op(op, 0, 0, m), SELF);
             safe(16, bad ? -101 : 1, op(12, 0, 0, 0), op(op, 15, 0, m), SELF);
+            if (op < 22) {
+                safe(16, bad ? -100 : 1, op(op, 15, 15, -1), SELF);
+            }
         }
     }
 
@@ -211,6 +214,18 @@ public final class SafeEdgeTest {
         Check.due("assemble", Check.assemble(x, "jump r0, x\nroom 2046\nx: word 0"), 2048);
         x.keep(0);
         Check.due("the last of all", x.safe(0, 2048), -2147);
+        // As many places as can be, each REACHED by the one before; the last one goes behind all, or to itself.
+        for (int i = 0; i < 512; i++) {
+            x.feed(1 << 26, 1 << 26, 1 << 26, 1 << 26);
+        }
+        x.keep(0);
+        Check.due("2048 places", x.safe(0, 2048), -2148);
+        for (int i = 0; i < 511; i++) {
+            x.feed(1 << 26, 1 << 26, 1 << 26, 1 << 26);
+        }
+        x.feed(1 << 26, 1 << 26, 1 << 26, SELF);
+        x.keep(0);
+        Check.due("2048 places", x.safe(0, 2048), 1);
         StringBuilder all = new StringBuilder();
         for (int i = 0; i < 400; i++) {
             all.append("beq r1, r2, 2\n");

@@ -1,4 +1,7 @@
-/** All that the calls of an object show without changing it, as one text. */
+/**
+ * All that the calls of an object show without changing it, as one text. It takes more calls than the 512 that the document promises
+ * answers for; the class counts no calls, so that it may be asked on.
+ */
 final class Snapshot {
     private final PartHouse x;
     private final StringBuilder text = new StringBuilder();

@@ -19,6 +19,7 @@ public final class TermEdgeTest {
         takenApart();
         closed();
         putTogether();
+        manyUsers();
         manyRounds();
         neverKnown();
         Check.end("TermEdgeTest");
@@ -77,11 +78,13 @@ public final class TermEdgeTest {
 
     private static void secrets() {
         Check.about("SECRET s (2; s a name that nothing else has)");
-        PartHouse x = Check.booted(new int[] {2, 0, 16, 0, 16, 16, 0, 0, 2, 0, 2, 1, 2}, "ask 21\nask 21\nback", "ask 21\nask 21\nback");
-        x.run(4);
+        String text = "ask 21\nask 11\nask 21\nask 11\nback";
+        PartHouse x = Check.booted(new int[] {2, 0, 16, 0, 16, 16, 0, 0, 2, 0, 3, 1, 3}, text, text);
+        x.run(6);
         for (int i = 1; i <= 3; i++) {
             Check.due("make", x.make(2, 5, 5, 5), i);
         }
+        Check.due("what went out", x.output(0, 0, 1) * 10 + x.output(1, 0, 1), 45);
         int[][] all = {{0, 1}, {0, 2}, {1, 1}, {1, 2}, {-1, 1}, {-1, 2}, {-1, 3}};
         for (int[] a : all) {
             for (int[] b : all) {
@@ -91,10 +94,10 @@ public final class TermEdgeTest {
         // In another boot they are others; what the outside holds tells it.
         x.off();
         x.boot();
-        x.run(4);
+        x.run(6);
         for (int p = 0; p < 2; p++) {
-            for (int h = 1; h <= 3; h++) {
-                Check.due("an outside one", x.same(p, 1, -1, h), 0);
+            for (int h = 1; h <= 5; h++) {
+                Check.due("one of before", x.same(p, 1, -1, h) + x.same(p, 2, -1, h), 0);
             }
         }
     }
@@ -125,6 +128,25 @@ public final class TermEdgeTest {
         Check.due("there already", x.take(2, 1, 0), 1);
         Check.due("3", x.make(2, 0, 0, 0), 3);
         Check.due("handles", x.told(6), 3);
+        // TERMS that came up far apart, in turn, to a TABLE that fills up.
+        PartHouse y = Check.booted(Check.alone(0), "ask 12\nadd r5, r1, r0\njump r0, -2");
+        for (int i = 1; i <= 450; i++) {
+            y.make(0, 5000 + i, 0, 0);
+        }
+        int next = 1;
+        int[] handles = new int[451];
+        for (int round = 0; round < 3; round++) {
+            for (int i = 1; i <= 30; i++) {
+                for (int h : new int[] {i, 128 + i, 256 + i}) {
+                    handles[h] = handles[h] == 0 ? next++ : handles[h];
+                    y.inputTerm(0, h);
+                    y.run(3);
+                    Check.due("HANDLE of " + h, y.register(0, 5), handles[h]);
+                    Check.due("the same", y.same(0, handles[h], -1, h), 1);
+                }
+            }
+        }
+        Check.due("handles", y.state(0, 6), 90);
     }
 
     /** The asks that answer a TERM, with registers as the image below has its HANDLES. */
@@ -134,6 +156,7 @@ public final class TermEdgeTest {
     private static void partitionTable() {
         Check.about("Each partition has a TABLE of at most 100");
         for (int[] ask : TERM_ASKS) {
+            Check.about("A TERM that is answered COMES INTO its TABLE (- 4: it would be the 101st)");
             PartHouse x = filled(ask, 99);
             Check.due("ask " + ask[0] + " with 99", x.register(0, 5), 100);
             Check.due("handles", x.state(0, 6), 100);
@@ -214,6 +237,7 @@ public final class TermEdgeTest {
     }
 
     private static void told(String call, ToIntFunction<PartHouse> tells) {
+        Check.about("(A TERM that is told to the OUTSIDE COMES INTO its TABLE; -4: it would be the 601st.)");
         PartHouse x = outsideWith(599);
         Check.due(call + " as the 600th", tells.applyAsInt(x), 600);
         Check.due(call + " again", tells.applyAsInt(x), 600);
@@ -375,6 +399,28 @@ public final class TermEdgeTest {
                 far("ask " + kind + ", part " + place + " not known", new Script().silent(13, 1).silent(15, 1).silent(21)
                     .silent(kind, never[0], never[1], never[2]).silent(15, 4), 0, 1, -3, -3, -3);
             }
+        }
+    }
+
+    /** One TERM is a part of several, at each place; all come of it when it is had. */
+    private static void manyUsers() {
+        Check.about("ROUND i + 1 has all that ROUND i has, and what comes of that at once");
+        for (int place = 0; place < 3; place++) {
+            // 1 a SECRET that is had in round 1, by 2; 3, 4, 5 NUMBERS; then CLOSED of 1 and NUMBERS, and a HASH of each.
+            Script s = new Script().silent(21).silent(14, 1, 1).silent(13, 1).silent(13, 2).silent(13, 3);
+            int[] rounds = new int[5 + 18];
+            rounds[0] = 1;
+            int next = 6;
+            for (int a = 3; a <= 5; a++) {
+                for (int b = 3; b <= 5; b++) {
+                    int[] parts = place == 0 ? new int[] {1, a, b} : place == 1 ? new int[] {a, 1, b} : new int[] {a, b, 1};
+                    s.silent(19, parts).silent(15, next);
+                    rounds[next - 1] = 2;
+                    rounds[next] = 3;
+                    next += 2;
+                }
+            }
+            far("CLOSED with it at " + place, s.silent(11, 2), rounds);
         }
     }
 

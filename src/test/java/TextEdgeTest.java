@@ -24,8 +24,13 @@ public final class TextEdgeTest {
         labelNames();
         showingBits();
         showingNumbers();
+        whatIsNotTold();
         faultPlaces();
         leastNumber();
+        noTokens();
+        misplacedTokens();
+        unknownNames();
+        numbersBeyondBounds();
         labelsToldTwice();
         labelsTooMany();
         wordsTooMany();
@@ -194,6 +199,14 @@ public final class TextEdgeTest {
         Check.about("A token takes as many octets as it can (0x without such a figure behind it is the NUMBER 0 and a NAME)");
         Check.fault("word 0x", 2, 6);
         Check.fault("word 0x\n", 2, 6);
+        // What an earlier, longer text had behind it is not there.
+        PartHouse x = new PartHouse();
+        Check.due("a longer text", Check.assemble(x, "word 0x5"), 1);
+        Check.due("assemble", Check.assemble(x, "word 0x"), -12);
+        Check.due("place", x.place(), 6);
+        Check.due("assemble", Check.assemble(x, "word 0"), 1);
+        Check.due("assemble", Check.assemble(x, "word "), -12);
+        Check.due("place", x.place(), 5);
         Check.fault("word 0x 5", 2, 6);
         Check.fault("word 0xy", 2, 6);
         Check.fault("word 0xxxxxxxxx", 1, 6);
@@ -271,6 +284,10 @@ public final class TextEdgeTest {
         Check.makes("room 1", 0);
         Check.makes("room 2048", new int[2048]);
         Check.makes("word 1\nroom 2\nword 2", 1, 0, 0, 2);
+        PartHouse x = new PartHouse();
+        Check.due("a text before", Check.assemble(x, "word 1\nword 2\nword 3"), 3);
+        Check.due("assemble", Check.assemble(x, "word 4\nroom 2"), 3);
+        Check.due("words 0", x.word(0) * 100 + x.word(1) * 10 + x.word(2), 400);
         Check.fault("room 0", 5, 5);
         Check.fault("room 2049", 5, 5);
         Check.fault("room -1", 5, 6);
@@ -414,6 +431,17 @@ public final class TextEdgeTest {
         Check.due("shown(MIN)", x.shown(Integer.MIN_VALUE), 0);
     }
 
+    private static void whatIsNotTold() {
+        Check.about("What is not told is 0");
+        Check.makes("add r0, r0, r0", 1 << 26);
+        Check.makes("mul r15, r15, r15", op(11, 15, 15, 15 << 14));
+        Check.makes("high r15, 0", op(21, 15, 0, 0));
+        Check.makes("jump r15, 0", op(36, 15, 0, 0));
+        Check.makes("ask 0", 38 << 26);
+        Check.makes("back", 39 << 26);
+        Check.makes("addi r0, r0, 0", 12 << 26);
+    }
+
     private static void faultPlaces() {
         Check.about("the first in THE TEXT (at a token's first octet; the text's length at its end)");
         Check.fault("add", 2, 3);
@@ -440,6 +468,111 @@ public final class TextEdgeTest {
         Check.fault("room 2048\nfoo", 3, 10);
         Check.fault("room 2048\n5", 2, 10);
         Check.fault("word abcdefghi", 1, 5);
+    }
+
+    private static void noTokens() {
+        Check.about("1 no token begins there, or it is too long");
+        for (String bad : new String[] {"?", "A", "_", "(", ".", "+", "\"", "0123456789a", "00000000000", "0x000000000", "abcdefghi", "r12345678"}) {
+            boolean split = bad.equals("0123456789a");
+            Check.fault(bad, split ? 2 : 1, 0);
+            Check.fault("a: " + bad, split ? 2 : 1, 3);
+            Check.fault("add " + bad, split ? 2 : 1, 4);
+            Check.fault("add r1" + " " + bad, split ? 2 : 1, 7);
+            Check.fault("add r1, r2, r3 " + bad, split ? 2 : 1, 15);
+            Check.fault("back\n" + bad, split ? 2 : 1, 5);
+            Check.fault("word - " + bad, split ? 2 : 1, split ? 17 : 7);
+        }
+    }
+
+    /** What may stand at a token of a statement: R, a comma, N, L or N, the end of the line. */
+    private static final String[][] FORMS = {{"add", "R", ",", "R", ",", "R", "$"}, {"addi", "R", ",", "R", ",", "N", "$"}, {"stw", "R", ",", "R", ",", "N", "$"},
+        {"jumpr", "R", ",", "R", ",", "N", "$"}, {"high", "R", ",", "N", "$"}, {"beq", "R", ",", "R", ",", "L", "$"}, {"jump", "R", ",", "L", "$"}, {"ask", "N", "$"},
+        {"back", "$"}, {"word", "L", "$"}, {"room", "N", "$"}};
+
+    private static String right(String form) {
+        return form.equals("R") ? "r1" : form.equals("N") || form.equals("L") ? "5" : form.equals("$") ? "\n" : form;
+    }
+
+    /** One token of a statement is another one: the fault is there, or at the next one behind a - that may stand. */
+    private static void misplacedTokens() {
+        Check.about("2 it can't come there");
+        String[] others = {",", ":", "-", "7", "zz", "r2", "\n", "?"};
+        for (String[] form : FORMS) {
+            for (int at = 1; at < form.length; at++) {
+                StringBuilder before = new StringBuilder(form[0]);
+                for (int i = 1; i < at; i++) {
+                    before.append(' ').append(right(form[i]));
+                }
+                StringBuilder behind = new StringBuilder();
+                for (int i = at + 1; i < form.length; i++) {
+                    behind.append(' ').append(right(form[i]));
+                }
+                for (String other : others) {
+                    replaced(before + " ", other, behind.toString(), form[at], at == 1);
+                }
+                // The text ends here.
+                if (!form[at].equals("$")) {
+                    Check.fault(before + " ", 2, before.length() + 1);
+                }
+            }
+        }
+    }
+
+    private static void replaced(String before, String other, String behind, String form, boolean first) {
+        boolean name = other.equals("zz") || other.equals("r2");
+        boolean number = form.equals("N") || form.equals("L");
+        int place = before.length();
+        if (first && other.equals(":")) {
+            // The statement's name is a label then, and what is behind it stands where a statement must be.
+            return;
+        }
+        if (other.equals("?")) {
+            Check.fault(before + other + behind, 1, place);
+        } else if (right(form).equals(other) || form.equals("R") && other.equals("r2") || number && other.equals("7")) {
+            Check.due("assemble of <" + before + other + behind + ">", Check.assemble(new PartHouse(), before + other + behind) > 0 ? 1 : 0, 1);
+        } else if (form.equals("R") && name) {
+            Check.fault(before + other + behind, 3, place);
+        } else if (form.equals("L") && name) {
+            Check.fault(before + other + behind, 7, place);
+        } else if (number && other.equals("-")) {
+            Check.fault(before + other + behind, 2, place + 2);
+        } else {
+            Check.fault(before + other + behind, 2, place);
+        }
+    }
+
+    private static void unknownNames() {
+        Check.about("3 a NAME where a statement must be, that is none; one where R must be, that is none");
+        for (String name : new String[] {"a", "ad", "addd", "adds", "r1", "r15", "muli", "subi", "highi", "ld", "st", "b", "jumpl", "asks", "backs", "words", "rooms", "zzzzzzzz"}) {
+            Check.fault(name, 3, 0);
+            Check.fault("l: " + name + " r1, r2, r3", 3, 3);
+            Check.fault("back\n" + name + "\n?", 3, 5);
+            if (name.charAt(0) != 'r' || name.equals("rooms")) {
+                Check.fault("add " + name, 3, 4);
+                Check.fault("add r1, " + name, 3, 8);
+                Check.fault("addi r1, " + name, 3, 9);
+                Check.fault("beq r1, " + name + ", x", 3, 8);
+            }
+        }
+        String[] all = {"add", "sub", "and", "or", "xor", "shl", "shr", "sar", "less", "below", "mul", "addi", "andi", "ori", "xori", "shli", "shri", "sari",
+            "lessi", "belowi", "high", "ldw", "ldh", "ldhu", "ldo", "ldou", "stw", "sth", "sto", "beq", "bne", "blt", "bge", "bltu", "bgeu", "jump", "jumpr"};
+        for (String statement : all) {
+            Check.fault(statement, 2, statement.length());
+            Check.fault(statement + " " + statement, 3, statement.length() + 1);
+        }
+    }
+
+    private static void numbersBeyondBounds() {
+        Check.about("5 a NUMBER (at its first octet, not at -) beyond its bounds");
+        Check.fault("addi r1, r2,   131072", 5, 15);
+        Check.fault("addi r1, r2, -   131073", 5, 17);
+        Check.fault("high r1, - 1", 5, 11);
+        Check.fault("ask -1", 5, 5);
+        Check.fault("word -2147483649", 5, 6);
+        Check.fault("room -2048", 5, 6);
+        Check.fault("beq r1, r2, -0x20001", 5, 13);
+        Check.makes("beq r1, r2, -0x20000", op(30, 1, 2, -131072));
+        Check.fault("addi r1, r2, 131072, r3", 5, 13);
     }
 
     private static String manyLabels(int count) {
