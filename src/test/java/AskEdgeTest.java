@@ -451,6 +451,17 @@ public final class AskEdgeTest {
         Check.due("no room", x.register(0, 1), -4);
         Check.due("they wait yet", x.state(0, 9), 2);
         Check.due("handles", x.state(0, 6), 100);
+        // One that is in the full TABLE already has its HANDLE, and waits no more.
+        PartHouse y = Check.booted(new int[] {1, 0, 16, 0, 0, 1, 0, 300}, "ask 12\nx: ask 21\nbge r1, r0, x\nask 0\nask 12\njump r0, 0");
+        y.make(0, 5, 0, 0);
+        y.inputTerm(0, 1);
+        y.run(300);
+        y.inputTerm(0, 1);
+        Check.due("handles", y.state(0, 6), 100);
+        y.run(10);
+        Check.due("its HANDLE", y.register(0, 1), 1);
+        Check.due("none waits", y.state(0, 9), 0);
+        Check.due("handles", y.state(0, 6), 100);
     }
 
     private static void numbers() {
